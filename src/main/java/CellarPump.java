@@ -1461,11 +1461,11 @@ public final class CellarPump {
             return -1;
         }
 
-        /** Behind the first one the others are in time if they are by their limits, the shortest first. */
+        /**
+         * Of a set that is in time the first one always is; behind it the others are in time in some order if they
+         * are by their limits, the shortest first.
+         */
         private boolean canBeFirst(int first, int set) {
-            if (things.weight[first] > limit[first]) {
-                return false;
-            }
             int others = set & ~(1 << first);
             for (int i = 0; i < things.count; i++) {
                 if ((others & 1 << i) != 0 && things.weight[first] + weightUpTo(limit[i], others) > limit[i]) {

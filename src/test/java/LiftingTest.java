@@ -5,6 +5,7 @@ public final class LiftingTest {
         rescueLimits();
         rescueChooses();
         rescueOrder();
+        rescueOrderOfThree();
         rescueLeavesOut();
         rescueLaterThan400();
         rescueAt400();
@@ -71,6 +72,17 @@ public final class LiftingTest {
         rescued("but 2 then can't", x, 7, 30, 1);
     }
 
+    /** 0 ahead of 2 makes 2 late, 1 ahead of both makes 0 late. */
+    private static void rescueOrderOfThree() {
+        CellarPump x = tens();
+        x.thing(1, 5, 80);
+        x.thing(1, 1, 900);
+        x.thing(1, 3, 40);
+        rescued("2, 0, 1", x, 7, 3, 2);
+        x.down(0, 90);
+        rescued("1, 2, 0", x, 7, 3, 1);
+    }
+
     private static void rescueLeavesOut() {
         CellarPump x = tens();
         x.thing(10, 1, 0);
@@ -120,6 +132,7 @@ public final class LiftingTest {
         x.thing(40, 5, 0);
         Check.due("no room", x.shelf(4, 0), 0);
         Check.due("no room", x.shelf(4, 1), 0);
+        Check.due("no room at all", x.shelf(0, 0), 0);
         Check.due("one", x.shelf(5, 0), 4);
         Check.due("two or one of 90: the least set", x.shelf(10, 0), 2);
         Check.due("90", x.shelf(10, 1), 90);
@@ -135,6 +148,10 @@ public final class LiftingTest {
     }
 
     private static void shelfOfAll() {
+        CellarPump y = new CellarPump();
+        y.thing(5, 1, 0);
+        y.thing(4, 1, 0);
+        Check.due("the first alone", y.shelf(1, 0), 1);
         CellarPump x = tens();
         x.thing(5, 1, 0);
         x.thing(6, 1, 900);

@@ -9,10 +9,14 @@ public final class NightsTest {
         bestOn();
         bestOnWithin();
         bestOnNone();
+        bestOnManyStarts();
+        trialsSeeTheBurst();
+        leastMost();
         rateFor();
         rateForTwice();
         batteryFor();
         batteryForNone();
+        batteryForOneThatRuns();
         Check.finish();
     }
 
@@ -170,6 +174,50 @@ public final class NightsTest {
         Check.due("told once", x.status(3), 1);
     }
 
+    /** 198 come and go each minute: a start in every one, also behind many others. */
+    private static void bestOnManyStarts() {
+        CellarPump x = new CellarPump();
+        x.water(0, 99, 0);
+        x.water(0, 99, 0);
+        x.build(2);
+        x.set(5, 99);
+        x.set(2, 10);
+        x.set(3, 200);
+        x.set(4, 199);
+        x.set(6, 999);
+        Check.due("starts", x.ahead(200, 2), 200);
+        Check.due("200 of them", x.bestOn(200, 9999), 200);
+        x.minutes(200);
+        x.minutes(100);
+        Check.due("300 starts were", x.now(9), 300);
+        Check.due("200 more of them", x.bestOn(200, 9999), 200);
+        x.set(4, 20);
+        x.set(2, 0);
+        Check.due("starts from now on are counted", x.bestOn(1, 9999), 199);
+    }
+
+    private static void trialsSeeTheBurst() {
+        CellarPump x = new CellarPump();
+        x.water(5, 30, 5);
+        x.minutes(2);
+        Check.due("it bursts behind three", x.bestOn(4, 9999), 31);
+        Check.due("not in three", x.bestOn(3, 9999), 11);
+        Check.due("rate, not in three", x.rateFor(3, 0), 1);
+        Check.due("rate, in four", x.rateFor(4, 0), Check.NONE);
+        Check.due("battery, not in three", x.batteryFor(3, 0), 0);
+        Check.due("battery, in four", x.batteryFor(4, 0), Check.NONE);
+    }
+
+    private static void leastMost() {
+        CellarPump x = new CellarPump();
+        Check.due("never more than 0", x.bestOn(200, 0), 11);
+        Check.due("never more than 0", x.rateFor(200, 0), 1);
+        Check.due("never more than 0", x.batteryFor(200, 0), 0);
+        Check.due("the most", x.bestOn(1, 9999), 11);
+        Check.due("the most", x.rateFor(1, 9999), 1);
+        Check.due("the most", x.batteryFor(1, 9999), 0);
+    }
+
     private static void rateFor() {
         CellarPump x = new CellarPump();
         x.water(0, 30, 0);
@@ -215,6 +263,18 @@ public final class NightsTest {
         for (int[] w : wrong) {
             Check.due("batteryFor " + w[0] + " " + w[1], x.batteryFor(w[0], w[1]), Check.BEYOND);
         }
+    }
+
+    /** It runs below its mark: without a battery it would stop, and not start again. */
+    private static void batteryForOneThatRuns() {
+        CellarPump x = new CellarPump();
+        x.water(0, 10, 0);
+        x.set(2, 45);
+        x.minutes(1);
+        Check.due("it runs", x.now(10), 1);
+        Check.due("deep", x.now(2), 35);
+        Check.due("one minute of the battery", x.batteryFor(1, 30), 1);
+        Check.due("two", x.batteryFor(2, 30), 2);
     }
 
     private static void batteryForNone() {

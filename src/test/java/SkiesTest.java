@@ -7,6 +7,8 @@ public final class SkiesTest {
         texts();
         faults();
         twelveDeeds();
+        hundredBytes();
+        nothingIsLeftBehind();
         fullSkies();
         skyOf();
         play();
@@ -110,6 +112,9 @@ public final class SkiesTest {
         fails("snow 5", 0);
         fails("rains 5", 0);
         fails("rai 5", 0);
+        fails("main 5", 0);
+        fails("raim 5", 0);
+        fails("current in", 8);
         fails(" 5", 1);
         fails(";", 0);
         fails("rain 5;", 7);
@@ -146,6 +151,40 @@ public final class SkiesTest {
         fails(waits(12) + ";;", 84);
         fails(waits(12) + " 7", 84);
         fails(waits(12) + "#", 83);
+    }
+
+    private static String blanks(int n) {
+        return " ".repeat(n);
+    }
+
+    private static void hundredBytes() {
+        reads(blanks(94) + "rain 5", 1, 0);
+        reads("wait 5" + blanks(94), 1, 5);
+        reads(blanks(89) + "current off", 1, 0);
+        fails(blanks(100), 100);
+        fails(blanks(99) + ";", 99);
+        fails(blanks(96) + "rain", 100);
+        fails(blanks(96) + "snow", 96);
+    }
+
+    /** Bytes and deeds of earlier texts are no part of later ones. */
+    private static void nothingIsLeftBehind() {
+        CellarPump x = new CellarPump();
+        Check.due("with a fault", Check.sky(x, "wait 5;wait 55;wait 9;snow"), -23);
+        Check.due("wait 5 alone", Check.sky(x, "wait 5"), 0);
+        Check.due("one deed", x.skyOf(0, 0), 1);
+        Check.due("five minutes", x.skyOf(0, 1), 5);
+        x.play(0);
+        Check.due("five went", x.now(8), 5);
+        Check.sky(x, waits(12));
+        Check.sky(x, "wait 50");
+        Check.due("twelve deeds, not the next one's", x.skyOf(1, 1), 60);
+        x.play(1);
+        Check.due("sixty went", x.now(8), 65);
+        Check.sky(x, "rain 7      9");
+        Check.due("a blank was ahead of 9", Check.sky(x, "rain 7"), 3);
+        Check.sky(x, "flap shutss");
+        Check.due("a letter was behind it", Check.sky(x, "flap shuts"), 4);
     }
 
     private static void fullSkies() {

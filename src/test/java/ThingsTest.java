@@ -6,6 +6,7 @@ public final class ThingsTest {
         harmed();
         lift();
         liftHarmedOnTheWay();
+        liftSeveral();
         down();
         harm();
         Check.finish();
@@ -90,6 +91,23 @@ public final class ThingsTest {
         Check.due("lifted all the same", x.thingOf(0, 3), 1);
         Check.due("lifted in time", x.lift(1), 8);
         Check.due("not harmed", x.thingOf(1, 4), 0);
+    }
+
+    private static void liftSeveral() {
+        CellarPump x = new CellarPump();
+        for (int i = 0; i < 10; i++) {
+            x.thing(1, 1, 500);
+        }
+        for (int i = 0; i < 10; i++) {
+            x.lift(i);
+            Check.due("lifted", x.count(7), i + 1);
+        }
+        for (int i = 0; i < 10; i++) {
+            Check.due("it is", x.thingOf(i, 3), 1);
+        }
+        x.down(4, 5);
+        Check.due("all but one", x.count(7), 9);
+        Check.due("that one", x.thingOf(4, 3), 0);
     }
 
     private static void down() {

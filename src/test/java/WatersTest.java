@@ -92,6 +92,8 @@ public final class WatersTest {
         for (int kind = 0; kind < 7; kind++) {
             Check.due("with the ditch comes of kind " + kind, x.waterOf(kind, 3), comes[kind]);
         }
+        x.set(1, 180);
+        Check.due("18, its half", x.waterOf(1, 3), 9);
     }
 
     private static void burst() {
@@ -194,8 +196,11 @@ public final class WatersTest {
         x.set(0, 40);
         x.minutes(1);
         Check.due("1030 less 20 is 999 at most", x.now(1), 999);
-        x.set(1, 49);
+        x.set(1, 100);
         x.set(0, 0);
+        x.minutes(1);
+        Check.due("100 less 2", x.now(1), 98);
+        x.set(1, 49);
         x.minutes(1);
         Check.due("a 50th is cut", x.now(1), 49);
         x.set(1, 0);
@@ -424,6 +429,11 @@ public final class WatersTest {
         Check.due("one more", x.came(), 1);
         x.minutes(50);
         Check.due("the burst one later", x.came(), 2);
+        for (int i = 3; i < 8; i++) {
+            x.water(0, 10 + 10 * i, 0);
+        }
+        x.minutes(20);
+        Check.due("the last of eight", x.came(), 7);
     }
 
     /** What came so far is an int: it wraps around. */

@@ -8,6 +8,7 @@ public final class WorksTest {
         worthOfEach();
         worthTies();
         worthOfSeveral();
+        worthOfMost();
         Check.finish();
     }
 
@@ -103,6 +104,20 @@ public final class WorksTest {
         Check.due("not the valve besides, for nothing too", x.worth(0, 9999, 0), 1);
         x.down(0, 999);
         Check.due("nothing, if there is no harm", x.worth(0, 9999, 0), 0);
+    }
+
+    private static void worthOfMost() {
+        CellarPump x = new CellarPump();
+        x.water(0, 99, 0);
+        for (int i = 0; i < 10; i++) {
+            x.thing(99, 1, 0);
+        }
+        for (int work = 0; work < 4; work++) {
+            x.cost(work, 999);
+        }
+        Check.sky(x, "wait 9");
+        Check.due("all is harmed", x.worth(0, 9999, 1), 990);
+        Check.due("nothing helps", x.worth(0, 9999, 0), 0);
     }
 
     private static void worthOfSeveral() {
