@@ -670,6 +670,14 @@ public final class CellarPump {
             }
         }
 
+        void constructAll(int works) {
+            for (int work = 0; work < WORKS; work++) {
+                if ((works & 1 << work) != 0) {
+                    construct(work);
+                }
+            }
+        }
+
         int costOf(int works) {
             int sum = 0;
             for (int work = 0; work < WORKS; work++) {
@@ -1350,7 +1358,10 @@ public final class CellarPump {
                 if ((works & real.built) != 0 || cost > coin) {
                     continue;
                 }
-                int harm = harmWith(works, skies, sky);
+                begin();
+                night.constructAll(works);
+                skies.perform(sky, night);
+                int harm = night.things.harmedWorth();
                 if (harm < leastHarm || harm == leastHarm && cost < leastCost) {
                     best = works;
                     leastHarm = harm;
@@ -1358,17 +1369,6 @@ public final class CellarPump {
                 }
             }
             return what == 0 ? best : leastHarm;
-        }
-
-        private int harmWith(int works, Skies skies, int sky) {
-            begin();
-            for (int work = 0; work < WORKS; work++) {
-                if ((works & 1 << work) != 0) {
-                    night.construct(work);
-                }
-            }
-            skies.perform(sky, night);
-            return night.things.harmedWorth();
         }
 
         /** For each THING the MINUTES within which it must be LIFTED; none, if it is, or is HARMED. */
