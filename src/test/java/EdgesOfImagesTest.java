@@ -72,6 +72,19 @@ public final class EdgesOfImagesTest {
         Edges.due("a harmed one", x.thingOf(1, 4), 1);
         Edges.due("one that isn't", x.thingOf(2, 4), 0);
         Edges.due("a sky", x.skyOf(0, 1), 4);
+        CellarPump y = new CellarPump();
+        y.minutes(3);
+        y.water(0, 60, 0);
+        y.minutes(1);
+        y.image();
+        y.minutes(9);
+        y.renew();
+        y.minutes(9);
+        Edges.due("another start", y.start(0), 13);
+        y.undo();
+        Edges.due("a start of the log", y.start(0), 3);
+        Edges.due("no other", y.start(1), Check.BEYOND);
+        Edges.due("what a water brought", y.waterOf(0, 4), 60);
     }
 
     /** Changes all that can be changed, and empties the tape. */

@@ -153,6 +153,15 @@ public final class EdgesOfLiftingTest {
         Edges.due("0, then 2, then 1", x.rescue(2), 0);
         x.down(2, 14);
         Edges.due("2 can't wait", x.rescue(2), 2);
+        CellarPump y = Edges.made(EdgesOfLiftingTest::ones);
+        y.thing(1, 5, 8);
+        y.thing(1, 1, 90);
+        y.thing(1, 3, 4);
+        rescued("0 ahead makes 2 late, 1 ahead makes 0 late", y, 7, 3, 2);
+        y.down(0, 9);
+        rescued("1, 2, 0", y, 7, 3, 1);
+        y.down(2, 8);
+        rescued("0, 2, 1", y, 7, 3, 0);
     }
 
     private static void rescueRefused() {

@@ -3,6 +3,7 @@ public final class EdgesOfNightsTest {
     public static void main(String[] args) {
         nightsChangeNothing();
         nightsBeginAsNow();
+        trialsBeginAsNow();
         harm();
         ahead();
         aheadRefused();
@@ -55,6 +56,33 @@ public final class EdgesOfNightsTest {
         CellarPump y = Edges.made(Edges::lived);
         Edges.due("deep behind a sky", x.under(0, 0), y.play(0));
         Edges.due("two nights don't meet", x.under(0, 0), y.now(2));
+    }
+
+    /** Each mark, rate and battery that is tried begins as things are now, not as the one tried ahead of it left them. */
+    private static void trialsBeginAsNow() {
+        Edges.says("NIGHTS AHEAD begin as things are now; nothing changes by them");
+        CellarPump x = new CellarPump();
+        x.water(0, 5, 0);
+        x.set(2, 40);
+        Edges.due("rate 5 keeps it at 45", x.rateFor(3, 45), 5);
+        Edges.due("a rate for less is none", x.rateFor(3, 44), Check.NONE);
+        CellarPump y = new CellarPump();
+        y.minutes(4);
+        y.water(0, 10, 0);
+        y.water(5, 60, 5);
+        y.set(2, 30);
+        Edges.due("40, then 110 less 20", y.batteryFor(2, 90), 1);
+        Edges.due("no battery makes it less", y.batteryFor(2, 89), Check.NONE);
+        Edges.due("a rate of 20 does", y.rateFor(2, 90), 20);
+        Edges.due("a mark of 40 does: 20, then 90 less 20", y.bestOn(2, 70), 11);
+        Edges.due("a mark of 41 is too late", y.bestOn(2, 90), 11);
+        CellarPump z = new CellarPump();
+        z.water(1, 50, 0);
+        z.set(0, 50);
+        // The ground is 147, 194, 240 behind one, two, three minutes.
+        Edges.due("73 come", z.ahead(1, 1), 73 - 20);
+        Edges.due("73, 97, 120 come: 23 of the last are left", z.rateFor(3, 23), 97);
+        Edges.due("22 of the last", z.rateFor(3, 22), 98);
     }
 
     private static void harm() {
@@ -192,6 +220,18 @@ public final class EdgesOfNightsTest {
         Edges.due("four minutes bring 200: a start with each mark", y.bestOn(4, 9999), 11);
         Edges.due("three bring 150", y.bestOn(3, 9999), 151);
         Edges.due("on stays", y.now(3), 40);
+        CellarPump z = new CellarPump();
+        z.water(0, 99, 0);
+        z.water(0, 99, 0);
+        z.build(2);
+        z.set(5, 99);
+        z.set(6, 999);
+        z.minutes(200);
+        Edges.due("a start in each of 200 minutes ahead of now", z.now(9), 200);
+        z.set(3, 190);
+        z.set(4, 189);
+        Edges.due("a start in each of 200 more with each mark up to 198", z.bestOn(200, 0), 190);
+        Edges.due("none with 199 in one minute", z.bestOn(1, 9999), 199);
     }
 
     private static void bestOnRefused() {

@@ -11,6 +11,7 @@ public final class EdgesOfSkiesTest {
         faultsAtTheEnd();
         skies();
         oneByOne();
+        eachDeedAlone();
         feed();
         feedRefused();
         wipe();
@@ -156,6 +157,10 @@ public final class EdgesOfSkiesTest {
         fails("rain 50;rain  100", 14);
         fails("wait 50;wait0", 12);
         fails("snow 5", 0);
+        fails("main 5", 0);
+        fails("raim 5", 0);
+        fails("rai 5", 0);
+        fails("rains 5", 0);
         fails("rain 5;  snow 5", 9);
         fails("flap  stick", 6);
         fails("rain #", 5);
@@ -225,6 +230,34 @@ public final class EdgesOfSkiesTest {
         Check.sky(y, repeated("wait 1", 12));
         y.play(0);
         Edges.due("all twelve", y.now(8), 12);
+    }
+
+    /** What each deed makes of a night of rain 1, flap stuck, battery 1, deep 30, and no other thing. */
+    private static void eachDeedAlone() {
+        Edges.says("its DEEDS are done one by one.");
+        String[] deeds = {"rain 7", "rain 1", "current off", "current on", "flap shuts", "flap sticks", "battery 7",
+            "bail 7", "wait 1"};
+        int[] measures = {0, 1, 2, 7, 8, 15, 16};
+        int[][] due = {{7, 100, 30, 1, 0, 1, 1}, {1, 100, 30, 1, 0, 1, 1}, {1, 100, 30, 1, 0, 0, 1},
+            {1, 100, 30, 1, 0, 1, 1}, {1, 100, 30, 1, 0, 1, 0}, {1, 100, 30, 1, 0, 1, 1}, {1, 100, 30, 7, 0, 1, 1},
+            {1, 100, 23, 1, 0, 1, 1}, {1, 99, 30, 1, 1, 1, 1}};
+        for (int i = 0; i < deeds.length; i++) {
+            for (boolean is : new boolean[] {true, false}) {
+                CellarPump x = new CellarPump();
+                x.set(0, 1);
+                x.set(2, 30);
+                x.set(7, 1);
+                x.flap(true);
+                x.current(is);
+                Check.sky(x, deeds[i]);
+                x.play(0);
+                for (int k = 0; k < measures.length; k++) {
+                    boolean isCurrentAsWas = measures[k] == 15 && !deeds[i].startsWith("current");
+                    int want = isCurrentAsWas ? (is ? 1 : 0) : due[i][k];
+                    Edges.due(deeds[i] + ", measure " + measures[k], x.now(measures[k]), want);
+                }
+            }
+        }
     }
 
     private static void feed() {

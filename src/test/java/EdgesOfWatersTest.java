@@ -311,6 +311,13 @@ public final class EdgesOfWatersTest {
         x.set(2, 50);
         x.minutes(1);
         Edges.due("and 12", x.quickest(), 3);
+        CellarPump z = new CellarPump();
+        z.minutes(100);
+        z.set(2, 50);
+        z.minutes(9);
+        z.set(2, 50);
+        z.minutes(1);
+        Edges.due("two: 100 and 109", z.quickest(), 9);
         CellarPump y = new CellarPump();
         y.set(5, 60);
         y.set(4, 0);
@@ -334,6 +341,11 @@ public final class EdgesOfWatersTest {
         x.water(5, 9, 999);
         x.water(5, 9, 999);
         Edges.due("nothing was brought", x.came(), 0);
+        Edges.due("the second of two", Edges.made(y -> {
+            y.water(0, 4, 0);
+            y.water(0, 5, 0);
+            y.minutes(1);
+        }).came(), 1);
         for (int i = 2; i < 8; i++) {
             x.water(0, 5, 0);
         }

@@ -10,6 +10,7 @@ public final class EdgesOfWorksTest {
         build();
         worth();
         worthOfBuilt();
+        worthOfAllHarmed();
         worthRefused();
         Check.finish();
     }
@@ -41,6 +42,12 @@ public final class EdgesOfWorksTest {
         Edges.due("the most ground", x.waterOf(1, 3), 34);
         Edges.due("the most ground, seeped", x.waterOf(4, 3), 17);
         Edges.due("the most ground, next door", x.waterOf(6, 3), 24);
+        x.change(1, 1, 2);
+        x.set(1, 100);
+        Edges.due("half of just 2", x.waterOf(1, 3), 1);
+        x.set(1, 99);
+        Edges.due("half of just 1", x.waterOf(1, 3), 0);
+        x.change(1, 1, 7);
         x.set(1, 100);
         x.set(0, 0);
         x.current(false);
@@ -194,6 +201,23 @@ public final class EdgesOfWorksTest {
         x.build(1);
         x.build(2);
         Edges.due("all are built", x.worth(0, 9999, 0), 0);
+    }
+
+    private static void worthOfAllHarmed() {
+        Edges.says("so that HARM behind a SKY is least; of such those of least COST");
+        CellarPump x = new CellarPump();
+        x.water(0, 99, 0);
+        for (int i = 0; i < 10; i++) {
+            x.thing(99, 1, 0);
+        }
+        for (int work = 0; work < 4; work++) {
+            x.cost(work, 999);
+        }
+        Check.sky(x, "wait 9");
+        Edges.due("all is harmed", x.worth(0, 9999, 1), 990);
+        Edges.due("nothing helps", x.worth(0, 9999, 0), 0);
+        x.down(9, 999);
+        Edges.due("all but one", x.worth(0, 9999, 1), 891);
     }
 
     private static void worthRefused() {

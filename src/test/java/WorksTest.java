@@ -1,5 +1,7 @@
 /** Promises 30 to 32: works, and which of them for so much coin. */
 public final class WorksTest {
+    private static final int[] COSTS = {50, 120, 80, 60};
+
     public static void main(String[] args) {
         cost();
         build();
@@ -120,7 +122,7 @@ public final class WorksTest {
         Check.due("nothing helps", x.worth(0, 9999, 0), 0);
     }
 
-    private static void worthOfSeveral() {
+    private static CellarPump neighbours() {
         CellarPump x = new CellarPump();
         x.water(6, 40, 0);
         x.water(3, 3, 10);
@@ -128,28 +130,33 @@ public final class WorksTest {
         x.thing(50, 1, 90);
         x.thing(20, 1, 5);
         Check.sky(x, "flap sticks;rain 30;wait 20;current off;wait 10");
-        x.cost(0, 50);
-        x.cost(1, 120);
-        x.cost(2, 80);
-        x.cost(3, 60);
+        for (int work = 0; work < 4; work++) {
+            x.cost(work, COSTS[work]);
+        }
+        return x;
+    }
+
+    /** Each set of works is tried by hand: built, played, and taken back. */
+    private static void worthOfSeveral() {
         for (int coin = 0; coin <= 320; coin += 10) {
+            CellarPump x = neighbours();
             int best = 0;
             int leastHarm = 9999;
             int leastCost = 9999;
-            int[] costs = {50, 120, 80, 60};
             for (int set = 0; set < 16; set++) {
                 x.image();
                 int cost = 0;
                 for (int work = 0; work < 4; work++) {
                     if ((set & 1 << work) != 0) {
-                        cost += costs[work];
+                        cost += COSTS[work];
                         x.build(work);
                     }
                 }
                 x.play(0);
-                if (cost <= coin && (x.harm() < leastHarm || x.harm() == leastHarm && cost < leastCost)) {
+                int harm = x.harm();
+                if (cost <= coin && (harm < leastHarm || harm == leastHarm && cost < leastCost)) {
                     best = set;
-                    leastHarm = x.harm();
+                    leastHarm = harm;
                     leastCost = cost;
                 }
                 x.undo();
