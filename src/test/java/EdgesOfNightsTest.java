@@ -129,6 +129,7 @@ public final class EdgesOfNightsTest {
         Edges.due("one start", x.ahead(200, 2), 1);
         x.minutes(1);
         Edges.due("not in them", x.ahead(200, 2), 0);
+        Edges.due("nor what was deeper ahead of them", x.ahead(1, 1), 4962);
         CellarPump y = new CellarPump();
         y.water(0, 60, 0);
         y.set(5, 60);

@@ -5,6 +5,7 @@ import java.lang.reflect.Method;
 import java.lang.reflect.Modifier;
 import java.nio.file.Files;
 import java.nio.file.Path;
+import java.util.List;
 import java.util.Set;
 import java.util.TreeSet;
 import java.util.regex.Matcher;
@@ -20,6 +21,7 @@ public final class LanguageTest {
         membersAreHidden();
         classes();
         words();
+        lengths();
         room();
         Check.finish();
     }
@@ -82,20 +84,51 @@ public final class LanguageTest {
     }
 
     private static void words() throws Exception {
-        String text = Files.readString(SOURCE).replaceAll("(?s)/\\*.*?\\*/", "").replaceAll("//[^\n]*", "");
-        String[] refused = {"\\bthrow\\b", "\\bthrows\\b", "\\btry\\b", "\\bcatch\\b", "\\bsynchronized\\b",
-            "\\bassert\\b", "->", "::", "\\w+Exact\\b", "\\bpackage\\b", "\\bequals\\b", "\\bhashCode\\b",
-            "\\btoString\\b", "\\bprotected\\b", "\\bThread\\b", "\\bRandom\\b", "System\\.(?!arraycopy)",
-            "Integer\\.(?!bitCount)", "Math\\.(?!min|max)", "Arrays\\.(?!fill)", "import (?!java\\.util\\.Arrays;)",
-            "\\bstatic \\{", "\\bdo \\{", "while \\(true\\)", "for \\(;;\\)", "[^\\x00-\\x7F]"};
+        String text = Files.readString(SOURCE).replaceAll("(?s)/\\*.*?\\*/", "").replaceAll("//[^\n]*", "")
+            .replaceAll("\\b(case [^:;{}]*|default )->", "");
+        String[] refused = {"\\bthrow\\b", "\\btry\\b", "\\bcatch\\b", "\\bsynchronized\\b", "\\bassert\\b", "->",
+            "::", "\\w+Exact\\b", "\\bpackage\\b", "\\bhashCode\\b", "\\bprotected\\b", "\\bThread\\b",
+            "\\bRandom\\b", "\\brandom\\b", "System\\.(?!arraycopy)", "Arrays\\.(?!fill|copyOf|copyOfRange)",
+            "import (?!java\\.util\\.(Arrays|ArrayList|List|Iterator);)", "\\bstatic \\{", "while \\(true\\)",
+            "for \\(;;\\)", "[^\\x00-\\x7F]"};
         for (String word : refused) {
             Matcher found = Pattern.compile(word).matcher(text);
             Check.holds("'" + word + "' stands in the source", !found.find());
         }
     }
 
-    /** What the dearest calls make: nothing, whatever is in the cellar. */
+    /** A method's lines, from its head to the brace that ends it. */
+    private static void lengths() throws Exception {
+        List<String> lines = Files.readAllLines(SOURCE);
+        Pattern head = Pattern.compile("( +)(?:(?:public|private|static|final|abstract) )*[\\w\\[\\]<>]+ ?\\w*\\(.*");
+        for (int from = 0; from < lines.size(); from++) {
+            Matcher m = head.matcher(lines.get(from));
+            boolean isMember = m.matches() && (m.group(1).length() == 4 || m.group(1).length() == 8);
+            if (isMember && lines.get(from).endsWith("{") && !lines.get(from).matches(" +(if|for|while|switch|do)\\b.*")) {
+                int to = from;
+                while (to < lines.size() && !lines.get(to).equals(m.group(1) + "}")) {
+                    to++;
+                }
+                Check.holds("some sixty lines: " + lines.get(from).trim(), to - from < 60);
+            }
+        }
+    }
+
+    /** What a run of the dearest calls makes, in bytes: less than 600,000 objects of 16 bytes, the room of a run. */
     private static void room() {
+        com.sun.management.ThreadMXBean threads =
+            (com.sun.management.ThreadMXBean) ManagementFactory.getThreadMXBean();
+        all(filled());
+        long before = threads.getCurrentThreadAllocatedBytes();
+        CellarPump x = filled();
+        for (int i = 0; i < 20; i++) {
+            all(x);
+        }
+        long made = threads.getCurrentThreadAllocatedBytes() - before;
+        Check.holds("a run made " + made + " bytes", made < 600000L * 16);
+    }
+
+    private static CellarPump filled() {
         CellarPump x = new CellarPump();
         for (int i = 0; i < 10; i++) {
             x.water(i % 7, 1 + i, i);
@@ -103,15 +136,7 @@ public final class LanguageTest {
         }
         Check.sky(x, "rain 9;wait 60;wait 60;flap sticks;wait 60;current off;wait 60");
         x.sheet(0, 32, 40);
-        all(x);
-        com.sun.management.ThreadMXBean threads =
-            (com.sun.management.ThreadMXBean) ManagementFactory.getThreadMXBean();
-        long before = threads.getCurrentThreadAllocatedBytes();
-        for (int i = 0; i < 20; i++) {
-            all(x);
-        }
-        long made = threads.getCurrentThreadAllocatedBytes() - before;
-        Check.holds("calls made objects, " + made + " bytes", made < 4096);
+        return x;
     }
 
     private static void all(CellarPump x) {
